@@ -268,11 +268,7 @@ public final class MovingBlock {
             if (place < 0) {
                 return 0;
             }
-            return Math.min(place / PIECE_LENGTH, PIECES - 1);
-        }
-
-        int gradeAt(int place) {
-            return grades[pieceAt(place)];
+            return place < LINE_END ? place / PIECE_LENGTH : PIECES - 1;
         }
 
         /**
@@ -458,7 +454,7 @@ public final class MovingBlock {
         void drive(int clock, Track track) {
             boolean authorised = hasFreshAuthority(clock);
             if (!emergency && speed != 0
-                    && !(authorised && isSafe(track, speed, reach(), tail()))) {
+                    && !(authorised && speed * speed <= greatestSafeSquareHere(track))) {
                 emergency = true;
                 emergencies++;
             }
@@ -473,9 +469,10 @@ public final class MovingBlock {
             return authorities.wasTaken() && clock - authorities.stamp <= OLDEST_AUTHORITY;
         }
 
-        boolean isSafe(Track track, int itsSpeed, int itsReach, int itsTail) {
+        /** Below 0 if no speed is safe, as without an authority. */
+        int greatestSafeSquareHere(Track track) {
             return authorities.wasTaken()
-                    && itsSpeed * itsSpeed <= track.greatestSafeSquare(authorities.first, itsReach, itsTail);
+                    ? track.greatestSafeSquare(authorities.first, reach(), tail()) : NONE;
         }
 
         int pullByDemand(boolean authorised, Track track) {
@@ -486,16 +483,20 @@ public final class MovingBlock {
             return authorised && staysSafe(pull, track) ? pull : PULL_BRAKE;
         }
 
-        /** The on-board unit does not know the drift: it counts on the way and on more doubt alone. */
+        /**
+         * Whether a train with an authority would be safe behind the tick. The on-board unit does not
+         * know the drift: it counts on the way and on more doubt alone.
+         */
         boolean staysSafe(int pull, Track track) {
             int next = speedAfter(pull, track);
             int way = wayTo(next);
             int more = way == 0 ? 0 : DOUBT_PER_TICK;
-            return isSafe(track, next, reach() + way + more, tail() + way - more);
+            return next * next <= track.greatestSafeSquare(
+                    authorities.first, reach() + way + more, tail() + way - more);
         }
 
         int speedAfter(int pull, Track track) {
-            return Math.max(0, speed + pull - PULL_PER_GRADE * track.gradeAt(front));
+            return Math.max(0, speed + pull - PULL_PER_GRADE * track.grades[Track.pieceAt(front)]);
         }
 
         /** Exact, as every speed is a whole number of quarters and so even in eighths. */
@@ -520,10 +521,7 @@ public final class MovingBlock {
         }
 
         int greatestSafeSpeed(Track track) {
-            if (!authorities.wasTaken()) {
-                return NONE;
-            }
-            int square = track.greatestSafeSquare(authorities.first, reach(), tail());
+            int square = greatestSafeSquareHere(track);
             for (int v = TOP_SPEED; v >= 0; v -= SPEED_STEP) {
                 if (v * v <= square) {
                     return v;

@@ -11,6 +11,7 @@ public final class Promise09TickTest {
         standingTrainHasNoEmergency();
         onBoardUnitBrakes();
         safeByExactlyEnough();
+        tailLeavesASlowPiece();
         followersAuthority();
         endOfTheLine();
         DUE.end();
@@ -186,6 +187,27 @@ public final class Promise09TickTest {
         DUE.is("no emergency", x.state(0, 3), 0);
     }
 
+    /** The state behind the tick counts: its tail is moved on by the way, less 2 eighths of doubt. */
+    private static void tailLeavesASlowPiece() {
+        MovingBlock x = new MovingBlock();
+        x.enter(100, 611);
+        x.piece(0, 1, 0);
+        x.demand(0, 1);
+        x.tick(2);
+        DUE.is("at the limit 1", x.measure(0, 1), 8);
+        x.tick(1);
+        DUE.is("tail comes to 4092 + 10 - 2", x.measure(0, 1), 12);
+        MovingBlock y = new MovingBlock();
+        y.enter(100, 610);
+        y.piece(0, 1, 0);
+        y.demand(0, 1);
+        y.tick(2);
+        DUE.is("at the limit 1", y.measure(0, 1), 8);
+        y.tick(1);
+        DUE.is("tail would come to 4084 + 10 - 2", y.measure(0, 1), 0);
+        DUE.is("no emergency", x.state(0, 3) + y.state(0, 3), 0);
+    }
+
     private static void followersAuthority() {
         MovingBlock x = new MovingBlock();
         x.enter(100, 2000);
@@ -215,7 +237,7 @@ public final class Promise09TickTest {
         DUE.is("all are known", y.measure(2, 4), 11136);
     }
 
-    /** Uncertain reach beyond 4096 is not safe, and a train that slips over the end stays there. */
+    /** The train crawls up to the end with a reach beyond it, by a drift that it does not know. */
     private static void endOfTheLine() {
         MovingBlock x = new MovingBlock();
         x.enter(20, 4000);
@@ -224,13 +246,13 @@ public final class Promise09TickTest {
         DUE.is("stops before the end", x.measure(0, 0) < 32768 ? 1 : 0, 1);
         DUE.is("no emergency", x.state(0, 3), 0);
         MovingBlock y = new MovingBlock();
-        y.enter(20, 3990);
+        y.enter(20, 4000);
         y.demand(0, 1);
-        y.tick(8);
-        y.piece(7, 40, -1);
-        y.drift(0, -2);
-        Due.ticks(y, 120);
-        DUE.is("piece beyond", y.state(0, 5), 7);
-        DUE.is("trains", y.count(1), 1);
+        y.drift(0, 2);
+        Due.ticks(y, 80);
+        DUE.is("stands", y.measure(0, 1), 0);
+        DUE.is("reach near the end or beyond", y.measure(0, 2) + y.measure(0, 3) > 32750 ? 1 : 0, 1);
+        DUE.is("piece", y.state(0, 5), 7);
+        DUE.is("stays on the line", y.count(1), 1);
     }
 }

@@ -46,10 +46,7 @@ public final class Promise13CountTest {
         DUE.is("lost ones have not arrived", x.count(5), 6);
     }
 
-    /**
-     * Only a brake failure could bring a train beyond the rear of the one before it, but for one case:
-     * a train that was reported far ahead of itself. Its drift is within the doubt, so none is found.
-     */
+    /** Authorities keep every train behind the one before it, whatever the drifts, so count(2) is 0. */
     private static void beyond() {
         MovingBlock x = new MovingBlock();
         x.enter(100, 600);
