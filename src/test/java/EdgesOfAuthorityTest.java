@@ -255,9 +255,11 @@ public final class EdgesOfAuthorityTest {
             DUE.is("reported tail", x.measure(0, 6), tail);
             DUE.is("authority", x.measure(1, 4), tail - 64);
             DUE.is("permitted", x.permitted(1), tail - 64 >= 160 ? greatestEven(12 * (tail - 64 - 160)) : -1);
+            DUE.is("it was taken, at -1 too", x.state(1, 2), x.count(0));
             tail -= 2;
         }
-        DUE.is("it has come below 0", x.measure(1, 4) < 0 ? 1 : 0, 1);
+        DUE.is("it has come below 0 by way of -1", x.measure(1, 4), 57 - 64);
+        DUE.is("the train that stands there comes into no emergency", x.state(1, 3), 0);
     }
 
     private static int greatestEven(int square) {

@@ -178,6 +178,9 @@ public final class EdgesOfPiecesTest {
         Setup.roll(x, 0);
         DUE.is("tail below 0", Setup.tail(x, 0), -1);
         DUE.is("permitted", x.permitted(0), 320);
+        x.tick(1);
+        DUE.is("a reported tail of -1", x.measure(0, 6), -1);
+        DUE.is("was taken all the same", x.state(0, 1), 3);
         x.piece(7, 1, 0);
         DUE.is("no other piece counts", x.permitted(0), 320);
         x.piece(0, 3, 0);
